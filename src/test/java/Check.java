@@ -29,8 +29,10 @@ final class Check {
 
     static String shown(ClassPools x) {
         StringBuilder s = new StringBuilder();
-        for (int i = 0; x.out(i) != ClassPools.NONE; i++) {
-            s.append((char) x.out(i));
+        int b = x.out(0);
+        for (int i = 1; b != ClassPools.NONE; i++) {
+            s.append((char) b);
+            b = x.out(i);
         }
         return s.toString();
     }
