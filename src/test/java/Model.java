@@ -348,6 +348,10 @@ final class Model {
         return shown(Made.bytesOf(s));
     }
 
+    int files() {
+        return files.size();
+    }
+
     int feed(long w, int n) {
         if (n < 1 || n > 8) {
             return BAD;

@@ -62,6 +62,7 @@ public final class ModelTest {
         m.first = below(2);
         m.second = once(9) ? 0xFFFF : 52;
         m.flags = below(3);
+        int spread = once(3) ? 1000 : 5;
         List<Runnable> steps = new ArrayList<>();
         List<Integer> texts = new ArrayList<>();
         List<Integer> fields = new ArrayList<>();
@@ -80,8 +81,9 @@ public final class ModelTest {
                 () -> texts.add(m.text(any(NAMES))), () -> fields.add(m.text(any(FIELDS))),
                 () -> methods.add(m.text(any(METHODS))), () -> classes.add(m.one(7, any(texts))),
                 () -> m.one(8, any(texts)), () -> named.add(m.pair(12, any(texts), any(fields))),
-                () -> m.pair(9 + below(3), any(classes), any(named)), () -> m.four(3 + below(2), below(5) - 2),
-                () -> m.eight(5 + below(2), (below(5) - 2L) << (once(2) ? 31 : 0)));
+                () -> m.pair(9 + below(3), any(classes), any(named)), () -> m.four(3 + below(2), below(spread) - 2),
+                () -> m.eight(5 + below(2), (below(spread) - 2L) << (once(2) ? 31 : 0)),
+                () -> m.four(3, below(spread) - 2));
             if (once(200)) {
                 fields.add(m.text(any(WRONG)));
                 methods.add(m.text(any(WRONG)));
@@ -163,14 +165,14 @@ public final class ModelTest {
     }
 
     private void call() {
-        int f = once(40) ? index(6) : below(6);
+        int f = once(20) ? index(6) : below(Math.max(1, model.files()));
         int i = index(24);
-        int kind = index(3);
-        int k = index(3);
-        int a = index(2);
-        int what = index(4);
+        int kind = once(9) ? index(3) : below(3);
+        int k = once(2) ? 0 : index(2);
+        int a = once(2) ? 0 : index(2);
+        int what = once(2) ? below(2) : index(3);
         String with = " " + f + ", " + i + ", " + kind + ", " + k + ", " + a + ", " + what;
-        switch (below(18)) {
+        switch (below(19)) {
             case 0: due("file" + with, x.file(f, i), model.file(f, i)); break;
             case 1: due("entry" + with, x.entry(f, i, what), model.entry(f, i, what)); break;
             case 2: calls++; check.due(run + "number" + with, Check.thrown(x, f, i), model.number(f, i)); break;
@@ -178,13 +180,17 @@ public final class ModelTest {
             case 4: due("member" + with, x.member(f, kind, k, what), model.member(f, kind, k, what)); break;
             case 5: due("told" + with, x.told(f, kind, k, what), model.told(f, kind, k, what)); break;
             case 6: due("attribute" + with, x.attribute(f, kind, k, a, what), model.attribute(f, kind, k, a, what)); break;
-            case 7: due("join", x.join(), model.join()); break;
+            case 7: case 16: due("join", x.join(), model.join()); break;
             case 8: case 9: due("joined" + with, x.joined(f, i), model.joined(f, i)); break;
             case 10: due("meaning" + with, x.meaning(i, what), model.meaning(i, what)); break;
             case 11: due("alike" + with, x.alike(f, k), model.alike(f, k)); break;
             case 12: due("write" + with, x.write(f, a), model.write(f, a)); break;
             case 13: due("back", x.back(), model.back()); break;
-            case 14: due("drop" + with, x.drop(f), model.drop(f)); break;
+            case 14:
+                if (once(3)) {
+                    due("drop" + with, x.drop(f), model.drop(f));
+                }
+                break;
             case 15: writeAndRead(f); break;
             default: due("out" + with, x.out(i), model.out(i)); break;
         }

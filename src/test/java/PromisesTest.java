@@ -239,6 +239,9 @@ public final class PromisesTest {
             below[at + 4] = 0x7F;
             fault("too many bytes of an attribute", below, 1, below.length);
         }
+        byte[] full = Made.least("A".repeat(370)).bytes();
+        fault("attributes at the end of 400 bytes", changed(full, 398, 7), 3, 398);
+        fault("an attribute behind 400 bytes", changed(full, 398, 6), 1, 400);
         Made pool = new Made();
         pool.self = pool.type("A");
         while (pool.places < 61) {
@@ -366,7 +369,7 @@ public final class PromisesTest {
             }
         }
         for (String method : new String[] {"", "(", ")", "()", "V", "(V", ")V", "()VV", "(V)V", "(I)", "(I)II", "(()V)V",
-            "()V ", "(IV)V", "(I", "(LA)V", "(I)I)V"}) {
+            "()V ", "(IV)V", "(I", "(LA)V", "(I)I)V", "I)V", "[)V", " )V", "I()V"}) {
             sort(1, method, false);
         }
         Made both = Made.least("A");
@@ -417,8 +420,20 @@ public final class PromisesTest {
         due("drop of none", x.drop(0), NONE);
         due("read again", Made.least("D").read(x), 0);
         due("the new one", name(x, 0), "D");
-        due("OUT stays", x.drop(0), 0);
-        due("OUT", x.out(0), 'D');
+        due("drop of the new one", x.drop(0), 0);
+        due("OUT stays", x.out(0), 'D');
+        ClassPools y = new ClassPools();
+        for (int i = 0; i < 6; i++) {
+            Made.least("A" + i).read(y);
+        }
+        for (int file : new int[] {5, 0, 2}) {
+            due("drop of one of six", y.drop(file), 5);
+            due("read instead", Made.least("B" + file).read(y), 5);
+        }
+        String[] left = {"A1", "A2", "A4", "B5", "B0", "B2"};
+        for (int i = 0; i < 6; i++) {
+            due("file " + i, name(y, i), left[i]);
+        }
     }
 
     private static void file() {
@@ -746,7 +761,7 @@ public final class PromisesTest {
         Made n = new Made();
         String[] few = {"a", "aa", "b"};
         int[] t = {n.text(few[0]), n.text(few[1]), n.text(few[2])};
-        int[][] parts = {{0, 0, 1}, {0, 1, 0}, {0, 2, 2}, {1, 0, 0}, {2, 0, 0}};
+        int[][] parts = {{0, 0, 0}, {0, 0, 1}, {0, 1, 0}, {0, 2, 2}, {1, 0, 0}, {2, 0, 0}};
         int[] at = new int[80];
         int k = 3;
         for (int i = 0; i < 3; i++) {
