@@ -1,30 +1,84 @@
-/** Counts answers that are not as due, and tells them. */
+/** Counts answers that are not as due, and tells them with the sentence of the document that they break. */
 final class Check {
     private int wrong = 0;
     private int asked = 0;
+    private int askedBefore = -1;
+    private String sentence = "";
+
+    /** What is asked from now on tests these words, which stand in that section of the document. */
+    void of(String section, String words) {
+        endSentence();
+        sentence = section + ", \"" + words + "\": ";
+        due("the words stand in the document", Document.says(section, words) ? 1 : 0, 1);
+        askedBefore = asked;
+    }
+
+    private void endSentence() {
+        if (asked == askedBefore) {
+            wrong++;
+            System.out.println(sentence + "nothing was asked");
+        }
+    }
 
     void due(String what, long got, long want) {
         asked++;
         if (got != want) {
-            wrong++;
-            System.out.println(what + " answered " + got + ", due is " + want);
+            tell(what, Long.toString(got), Long.toString(want));
         }
     }
 
     void due(String what, String got, String want) {
         asked++;
         if (!got.equals(want)) {
-            wrong++;
-            System.out.println(what + " answered " + got + ", due is " + want);
+            tell(what, got, want);
         }
+    }
+
+    private void tell(String what, String got, String want) {
+        wrong++;
+        System.out.println(sentence + what + " answered " + got + ", due is " + want);
     }
 
     /** Ends the program, with exit code 1 if something was wrong. */
     void end() {
+        endSentence();
         System.out.println(asked + " answers, " + wrong + " of them not as due");
         if (wrong != 0 || asked == 0) {
             System.exit(1);
         }
+    }
+
+    /** A new object that has read these files. */
+    ClassPools with(Made... files) {
+        ClassPools x = new ClassPools();
+        for (int i = 0; i < files.length; i++) {
+            due("read", files[i].read(x), i);
+        }
+        return x;
+    }
+
+    /** The bytes are a file. */
+    void right(String what, byte[] bytes) {
+        ClassPools x = new ClassPools();
+        due("read: " + what, Made.read(x, bytes), 0);
+        due("place: " + what, x.place(), ClassPools.NONE);
+        due("bytes: " + what, x.file(0, 0), bytes.length);
+        due("empty tape: " + what, x.feed(0, 1), 1);
+    }
+
+    /** The bytes are none, for a fault at a place. */
+    void fault(String what, byte[] bytes, int fault, int place) {
+        ClassPools x = new ClassPools();
+        due("read: " + what, Made.read(x, bytes), -20 - fault);
+        due("place: " + what, x.place(), place);
+        due("no file: " + what, x.file(0, 0), ClassPools.NONE);
+        due("empty tape: " + what, x.feed(0, 1), 1);
+    }
+
+    /** An answer that is how many bytes OUT has, and OUT. */
+    void shows(String what, ClassPools x, int answer, String out) {
+        due(what, answer, out.length());
+        due("OUT: " + what, shown(x), out);
     }
 
     static String shown(ClassPools x) {

@@ -1,5 +1,8 @@
 import java.io.ByteArrayOutputStream;
 import java.nio.charset.StandardCharsets;
+import java.util.ArrayList;
+import java.util.Arrays;
+import java.util.List;
 
 /** Makes the bytes of a file, part by part; it makes wrong ones as readily as right ones. */
 final class Made {
@@ -14,6 +17,9 @@ final class Made {
     private final ByteArrayOutputStream[] members = {new ByteArrayOutputStream(), new ByteArrayOutputStream()};
     private final ByteArrayOutputStream attributes = new ByteArrayOutputStream();
     private final int[] counts = new int[4];
+    // where in its own stream a TWO tells a place, and the tag that is wanted there: pool, faces, members, attributes
+    private final List<List<int[]>> tells = List.of(new ArrayList<>(), new ArrayList<>(), new ArrayList<>(), new ArrayList<>(),
+        new ArrayList<>());
 
     static byte[] bytesOf(String s) {
         return s.getBytes(StandardCharsets.ISO_8859_1);
@@ -51,9 +57,14 @@ final class Made {
         return placed(2);
     }
 
+    private static void tell(List<int[]> to, int at, int wanted) {
+        to.add(new int[] {at, wanted});
+    }
+
     /** Tags 7 and 8. */
     int one(int tag, int told) {
         put(pool, tag, 1);
+        tell(tells.get(0), pool.size(), 1);
         put(pool, told, 2);
         return placed(1);
     }
@@ -61,7 +72,9 @@ final class Made {
     /** Tags 9 to 12. */
     int pair(int tag, int told, int then) {
         put(pool, tag, 1);
+        tell(tells.get(0), pool.size(), tag == 12 ? 1 : 7);
         put(pool, told, 2);
+        tell(tells.get(0), pool.size(), tag == 12 ? 1 : 12);
         put(pool, then, 2);
         return placed(1);
     }
@@ -72,6 +85,7 @@ final class Made {
     }
 
     Made face(int place) {
+        tell(tells.get(1), faces.size(), 7);
         put(faces, place, 2);
         counts[2]++;
         return this;
@@ -87,11 +101,15 @@ final class Made {
     }
 
     Made member(int kind, int flags, int name, int sort, byte[]... attributes) {
+        List<int[]> told = tells.get(2 + kind);
         put(members[kind], flags, 2);
+        tell(told, members[kind].size(), 1);
         put(members[kind], name, 2);
+        tell(told, members[kind].size(), 1);
         put(members[kind], sort, 2);
         put(members[kind], attributes.length, 2);
         for (byte[] a : attributes) {
+            tell(told, members[kind].size(), 1);
             members[kind].writeBytes(a);
         }
         counts[kind]++;
@@ -99,6 +117,7 @@ final class Made {
     }
 
     Made attribute(byte[] bytes) {
+        tell(tells.get(4), attributes.size(), 1);
         attributes.writeBytes(bytes);
         counts[3]++;
         return this;
@@ -107,6 +126,32 @@ final class Made {
     /** Where the flags stand. */
     int behind() {
         return 10 + pool.size();
+    }
+
+    /** Where it stands how many faces (0), fields (1), methods (2), attributes of the file (3) there are. */
+    int countAt(int part) {
+        int at = behind() + 6;
+        int[] sizes = {faces.size(), members[0].size(), members[1].size()};
+        for (int i = 0; i < part; i++) {
+            at += 2 + sizes[i];
+        }
+        return at;
+    }
+
+    /** Every TWO that tells a place, in the file's order: where it stands, and the tag that is wanted there. */
+    List<int[]> tells() {
+        List<int[]> all = new ArrayList<>();
+        int[] from = {10, countAt(0) + 2, countAt(1) + 2, countAt(2) + 2, countAt(3) + 2};
+        for (int part = 0; part < from.length; part++) {
+            for (int[] t : tells.get(part)) {
+                tell(all, from[part] + t[0], t[1]);
+            }
+            if (part == 0) {
+                tell(all, behind() + 2, 7);
+                tell(all, behind() + 4, 7);
+            }
+        }
+        return all;
     }
 
     byte[] bytes() {
@@ -158,5 +203,47 @@ final class Made {
         Made made = new Made();
         made.self = made.type(name);
         return made;
+    }
+
+    /** A file that has some of everything. */
+    static Made rich() {
+        Made m = new Made();
+        m.first = 3;
+        m.second = 61;
+        m.flags = 0x8421;
+        int name = m.text("f");
+        int sort = m.text("J");
+        m.self = m.type("Self");
+        m.above = m.type("Above");
+        m.face(m.type("FaceA")).face(m.type("FaceB"));
+        int code = m.text("Code");
+        int run = m.text("(IJ[D[[LX;D)V");
+        m.eight(5, -2);
+        m.four(3, -3);
+        m.four(4, 0x80000001);
+        m.eight(6, Long.MIN_VALUE);
+        m.one(8, name);
+        int named = m.pair(12, name, sort);
+        m.pair(9, m.self, named);
+        m.pair(10, m.above, named);
+        m.pair(11, m.self, named);
+        m.member(0, 0x1234, name, sort, attribute(code, "ab"), attribute(name, ""));
+        m.member(0, 1, code, sort);
+        m.member(1, 0xFFFF, name, run, attribute(code, "\u0000\u00ff1"));
+        m.attribute(attribute(code, "xyz")).attribute(attribute(name, "\u0080"));
+        return m;
+    }
+
+    /** The bytes with another TWO at a place. */
+    static byte[] changed(byte[] bytes, int at, int two) {
+        byte[] other = bytes.clone();
+        other[at] = (byte) (two >> 8);
+        other[at + 1] = (byte) two;
+        return other;
+    }
+
+    /** The bytes and so many more of 0, or so many fewer. */
+    static byte[] longer(byte[] bytes, int by) {
+        return Arrays.copyOf(bytes, bytes.length + by);
     }
 }

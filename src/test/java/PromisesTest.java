@@ -47,41 +47,8 @@ public final class PromisesTest {
         check.end();
     }
 
-    /** A file that has some of everything. */
-    private static Made rich() {
-        Made m = new Made();
-        m.first = 3;
-        m.second = 61;
-        m.flags = 0x8421;
-        int name = m.text("f");
-        int sort = m.text("J");
-        m.self = m.type("Self");
-        m.above = m.type("Above");
-        m.face(m.type("FaceA")).face(m.type("FaceB"));
-        int code = m.text("Code");
-        int run = m.text("(IJ[D[[LX;D)V");
-        m.eight(5, -2);
-        m.four(3, -3);
-        m.four(4, 0x80000001);
-        m.eight(6, Long.MIN_VALUE);
-        m.one(8, name);
-        int named = m.pair(12, name, sort);
-        m.pair(9, m.self, named);
-        m.pair(10, m.above, named);
-        m.pair(11, m.self, named);
-        m.member(0, 0x1234, name, sort, Made.attribute(code, "ab"), Made.attribute(name, ""));
-        m.member(0, 1, code, sort);
-        m.member(1, 0xFFFF, name, run, Made.attribute(code, "\u0000\u00ff1"));
-        m.attribute(Made.attribute(code, "xyz")).attribute(Made.attribute(name, "\u0080"));
-        return m;
-    }
-
     private static ClassPools with(Made... files) {
-        ClassPools x = new ClassPools();
-        for (int i = 0; i < files.length; i++) {
-            due("read", files[i].read(x), i);
-        }
-        return x;
+        return check.with(files);
     }
 
     private static void aNewObject() {
@@ -157,15 +124,11 @@ public final class PromisesTest {
     }
 
     private static void fault(String what, byte[] bytes, int fault, int place) {
-        ClassPools x = new ClassPools();
-        due("read: " + what, Made.read(x, bytes), -20 - fault);
-        due("place: " + what, x.place(), place);
-        due("no file: " + what, x.file(0, 0), NONE);
-        due("empty tape: " + what, x.feed(0, 1), 1);
+        check.fault(what, bytes, fault, place);
     }
 
     private static void readStops() {
-        byte[] bytes = rich().bytes();
+        byte[] bytes = Made.rich().bytes();
         for (int n = 0; n < bytes.length; n++) {
             fault("the first " + n, Arrays.copyOf(bytes, n), 1, n);
         }
@@ -181,30 +144,23 @@ public final class PromisesTest {
         }
     }
 
-    private static byte[] changed(byte[] bytes, int at, int two) {
-        byte[] other = bytes.clone();
-        other[at] = (byte) (two >> 8);
-        other[at + 1] = (byte) two;
-        return other;
-    }
-
     private static void readCounts() {
         byte[] least = Made.least("A").bytes();
         int behind = Made.least("A").behind();
         for (int n : new int[] {0, 62, 256, 32768, 65535}) {
-            fault("pool of " + n, changed(least, 8, n), 3, 8);
+            fault("pool of " + n, Made.changed(least, 8, n), 3, 8);
         }
         for (int n : new int[] {9, 65535}) {
-            fault("faces", changed(least, behind + 6, n), 3, behind + 6);
+            fault("faces", Made.changed(least, behind + 6, n), 3, behind + 6);
         }
         for (int n : new int[] {13, 65535}) {
-            fault("fields", changed(least, behind + 8, n), 3, behind + 8);
-            fault("methods", changed(least, behind + 10, n), 3, behind + 10);
+            fault("fields", Made.changed(least, behind + 8, n), 3, behind + 8);
+            fault("methods", Made.changed(least, behind + 10, n), 3, behind + 10);
         }
         for (int n : new int[] {7, 65535}) {
-            fault("attributes", changed(least, behind + 12, n), 3, behind + 12);
+            fault("attributes", Made.changed(least, behind + 12, n), 3, behind + 12);
         }
-        fault("pool of 61 that ends", changed(least, 8, 61), 4, 17);
+        fault("pool of 61 that ends", Made.changed(least, 8, 61), 4, 17);
 
         Made most = Made.least("A");
         int i = most.text("I");
@@ -232,7 +188,7 @@ public final class PromisesTest {
             six.member(kind, 0, 1, sort, attribute, attribute, attribute, attribute, attribute, attribute);
             due("6 attributes of a member", with(six).told(0, kind, 0, 1), 6);
             int at = six.behind() + 8 + 2 * kind + 2 + 6;
-            fault("7 attributes of a member", changed(six.bytes(), at, 7), 3, at);
+            fault("7 attributes of a member", Made.changed(six.bytes(), at, 7), 3, at);
             byte[] below = six.bytes();
             below[at + 4] = (byte) 0x80;
             fault("bytes of an attribute below 0", below, 5, at + 4);
@@ -240,8 +196,8 @@ public final class PromisesTest {
             fault("too many bytes of an attribute", below, 1, below.length);
         }
         byte[] full = Made.least("A".repeat(370)).bytes();
-        fault("attributes at the end of 400 bytes", changed(full, 398, 7), 3, 398);
-        fault("an attribute behind 400 bytes", changed(full, 398, 6), 1, 400);
+        fault("attributes at the end of 400 bytes", Made.changed(full, 398, 7), 3, 398);
+        fault("an attribute behind 400 bytes", Made.changed(full, 398, 6), 1, 400);
         Made pool = new Made();
         pool.self = pool.type("A");
         while (pool.places < 61) {
@@ -272,7 +228,7 @@ public final class PromisesTest {
 
     /** Every TWO that tells a place in turn tells nothing, then a place outside, then another sort. */
     private static void readTold() {
-        Made m = rich();
+        Made m = Made.rich();
         byte[] bytes = m.bytes();
         int other = 10;
         int b = m.behind();
@@ -285,15 +241,15 @@ public final class PromisesTest {
         };
         for (int at : told) {
             if (at != b + 4) {
-                fault("nothing told at " + at, changed(bytes, at, 0), 7, at);
+                fault("nothing told at " + at, Made.changed(bytes, at, 0), 7, at);
             }
-            fault("the second place told at " + at, changed(bytes, at, 14), 7, at);
-            fault("outside told at " + at, changed(bytes, at, m.places), 8, at);
-            fault("far outside told at " + at, changed(bytes, at, 65535), 8, at);
-            fault("an int told at " + at, changed(bytes, at, 15), 9, at);
-            fault("later ones told too", changed(changed(bytes, at, m.places), file + 11, 0), at == file + 11 ? 7 : 8, at);
+            fault("the second place told at " + at, Made.changed(bytes, at, 14), 7, at);
+            fault("outside told at " + at, Made.changed(bytes, at, m.places), 8, at);
+            fault("far outside told at " + at, Made.changed(bytes, at, 65535), 8, at);
+            fault("an int told at " + at, Made.changed(bytes, at, 15), 9, at);
+            fault("later ones told too", Made.changed(Made.changed(bytes, at, m.places), file + 11, 0), at == file + 11 ? 7 : 8, at);
         }
-        due("no class above", Made.read(new ClassPools(), changed(bytes, b + 4, 0)), 0);
+        due("no class above", Made.read(new ClassPools(), Made.changed(bytes, b + 4, 0)), 0);
 
         int[][] wanted = {{7, 1, 0}, {8, 1, 0}, {9, 7, 12}, {10, 7, 12}, {11, 7, 12}, {12, 1, 1}};
         int[] right = new int[13];
@@ -320,7 +276,7 @@ public final class PromisesTest {
                     } else {
                         fault("tag " + want[0] + " leads to " + tag, p.bytes(), 9, at + 2 * second);
                     }
-                    fault("ahead of the class", changed(changed(p.bytes(), p.behind() + 2, 0), at, 0), 7, at);
+                    fault("ahead of the class", Made.changed(Made.changed(p.bytes(), p.behind() + 2, 0), at, 0), 7, at);
                 }
             }
         }
@@ -437,7 +393,7 @@ public final class PromisesTest {
     }
 
     private static void file() {
-        Made m = rich();
+        Made m = Made.rich();
         Made high = Made.least("A");
         high.first = 0xFFFE;
         high.second = 0x8000;
@@ -459,7 +415,7 @@ public final class PromisesTest {
     }
 
     private static void entry() {
-        Made m = rich();
+        Made m = Made.rich();
         ClassPools x = with(m);
         int[][] dues = {
             {0, 0, 0, 0}, {1, 0, 0, 1}, {1, 0, 0, 1}, {1, 0, 0, 4}, {7, 3, 0, 0}, {1, 0, 0, 5}, {7, 5, 0, 0},
@@ -511,7 +467,7 @@ public final class PromisesTest {
     }
 
     private static void text() {
-        Made m = rich();
+        Made m = Made.rich();
         int none = m.text("");
         ClassPools x = with(m);
         due("text", x.text(0, 3, 0), 4);
@@ -543,7 +499,7 @@ public final class PromisesTest {
     }
 
     private static void member() {
-        Made m = rich();
+        Made m = Made.rich();
         ClassPools x = with(m, Made.least("B"));
         Object[][] dues = {
             {0, 0, 0, "f"}, {0, 0, 1, "J"}, {0, 1, 0, "Code"}, {0, 1, 1, "J"}, {1, 0, 0, "f"},
@@ -581,7 +537,7 @@ public final class PromisesTest {
     }
 
     private static void told() {
-        Made m = rich();
+        Made m = Made.rich();
         String[] methods = {"()V", "()J", "(JD)V", "([J[[D)D", "(BCDFIJSZ)I", "(LJ;LDD;J)V", "(LA;[LJ;)LJ;"};
         int[][] slots = {{0, 0}, {0, 0}, {4, 2}, {2, 2}, {10, 8}, {4, 3}, {2, 2}};
         String[] fields = {"D", "J", "I", "[J", "LJ;", "[[D", "Z"};
@@ -620,7 +576,7 @@ public final class PromisesTest {
     }
 
     private static void attribute() {
-        ClassPools x = with(rich(), Made.least("B"));
+        ClassPools x = with(Made.rich(), Made.least("B"));
         Object[][] dues = {
             {0, 0, 0, "Code", "ab"}, {0, 0, 1, "f", ""}, {1, 0, 0, "Code", "\u0000\u00ff1"}, {2, 0, 0, "Code", "xyz"},
             {2, 0, 1, "f", "\u0080"},
@@ -923,7 +879,7 @@ public final class PromisesTest {
     }
 
     private static void write() {
-        Made m = rich();
+        Made m = Made.rich();
         ClassPools x = with(Made.least("B"), m);
         due("write as it was", x.write(1, 0), m.bytes().length);
         due("OUT", Arrays.toString(Check.shownBytes(x)), Arrays.toString(m.bytes()));
@@ -999,7 +955,7 @@ public final class PromisesTest {
     }
 
     private static void back() {
-        Made m = rich();
+        Made m = Made.rich();
         ClassPools x = with(m);
         due("back of no OUT", x.back(), 0);
         x.text(0, 3, 0);
