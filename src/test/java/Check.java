@@ -1,16 +1,28 @@
+import java.util.HashSet;
+import java.util.Set;
+
 /** Counts answers that are not as due, and tells them with the sentence of the document that they break. */
 final class Check {
     private int wrong = 0;
     private int asked = 0;
     private int askedBefore = -1;
     private String sentence = "";
+    private final Set<String> sections = new HashSet<>();
 
     /** What is asked from now on tests these words, which stand in that section of the document. */
     void of(String section, String words) {
         endSentence();
+        sections.add(section);
         sentence = section + ", \"" + words + "\": ";
         due("the words stand in the document", Document.says(section, words) ? 1 : 0, 1);
         askedBefore = asked;
+    }
+
+    /** Sentences of all promises have been named. */
+    void ofAllPromises() {
+        for (int n = 1; n <= 19; n++) {
+            due("whether a sentence of Promise " + n + " was named", sections.contains("Promise " + n) ? 1 : 0, 1);
+        }
     }
 
     private void endSentence() {

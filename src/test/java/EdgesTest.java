@@ -46,6 +46,7 @@ public final class EdgesTest {
         alike();
         write();
         back();
+        check.ofAllPromises();
         check.end();
     }
 
@@ -491,6 +492,8 @@ public final class EdgesTest {
     private static void classes() {
         check.of("Promise 10", "kind 2: the class itself (k 0), the one above it (k 1), face k - 2 (what 0): how many bytes.");
         Made m = Made.least("Self");
+        // flags and counts that could be taken for the place of a class
+        m.flags = 2;
         for (int f = 0; f < 8; f++) {
             m.face(m.type("Face" + f));
         }
@@ -578,7 +581,11 @@ public final class EdgesTest {
             }
         }
         check.of("Promise 12", "how many. NONE; BAD.");
-        ClassPools x = with(attributes(1, 1, 1, 1, 1));
+        Made one = attributes(1, 1, 1, 1, 1);
+        // a version that could be taken for counts
+        one.first = 0x0101;
+        one.second = 0x0101;
+        ClassPools x = with(one);
         for (int kind = 0; kind < 3; kind++) {
             for (int k : outside(0, kind == 2 ? 0 : 1)) {
                 due("kind " + kind + ", member " + k, x.attribute(0, kind, k, 0, 0), NONE);
@@ -712,6 +719,30 @@ public final class EdgesTest {
         due("join", x.join(), 6);
         due("in the JOINED that was reckoned last", x.joined(0, 3), 2);
         due("place 1 of it", x.joined(0, 1), 1);
+        joinedStays();
+    }
+
+    /** The JOINED is no FILE's: it stays when FILES go, others take their room, and one is put in order. */
+    private static void joinedStays() {
+        ClassPools x = six();
+        due("join", x.join(), 12);
+        for (int i = 5; i >= 0; i--) {
+            x.drop(i);
+        }
+        for (int i = 0; i < 6; i++) {
+            Made.least("B" + i).read(x);
+        }
+        due("not among them", x.joined(5, 1), NONE);
+        due("nowhere", x.meaning(5, 1), 0);
+        due("its tag", x.meaning(5, 0), 1);
+        x.write(0, 1);
+        due("behind a FILE in order", x.joined(0, 1), NONE);
+        x.drop(0);
+        Made.least("A5").read(x);
+        due("the last TEXT", x.joined(5, 1), 5);
+        due("the last CLASS", x.joined(5, 2), 11);
+        due("in one place", x.meaning(11, 1), 1);
+        due("behind the last", x.meaning(12, 0), NONE);
     }
 
     private static void meaning() {

@@ -23,6 +23,7 @@ public final class FaultsTest {
         texts();
         twoPlaces();
         end();
+        endOfAFullTape();
         magic();
         countOfPlaces();
         counts();
@@ -32,6 +33,7 @@ public final class FaultsTest {
         size();
         more();
         theFirstOne();
+        placesOfEntries();
         placesToldAtAll();
         placesInOrder();
         sortsLast();
@@ -125,6 +127,7 @@ public final class FaultsTest {
                 due("joined of an empty place", x.joined(0, empty), NONE);
             }
         }
+        roomUsedAgain();
         for (int tag : new int[] {1, 3, 4, 7, 8, 9, 10, 11, 12}) {
             Made m = Made.least("A");
             int named = m.pair(12, 1, 1);
@@ -137,6 +140,26 @@ public final class FaultsTest {
         }
     }
 
+    /** A file takes the room of another one, or of a tape with a fault, in which nothing was empty. */
+    private static void roomUsedAgain() {
+        Made wide = Made.least("A");
+        for (int i = 0; i < 29; i++) {
+            wide.eight(5, i);
+        }
+        ClassPools x = check.with(places(61));
+        x.drop(0);
+        Made.read(x, Made.longer(places(61).bytes(), 1));
+        due("read", wide.read(x), 0);
+        for (int i = 0; i < 61; i++) {
+            due("tag of place " + i, x.entry(0, i, 0), i == 0 ? 0 : i == 1 ? 1 : i == 2 ? 7 : i % 2 == 1 ? 5 : 0);
+        }
+        x.drop(0);
+        due("read of a short one", Made.least("B").read(x), 0);
+        due("place n", x.joined(0, 3), NONE);
+        due("join", x.join(), 2);
+        due("no field", x.member(0, 0, 0, 0), NONE);
+    }
+
     private static void end() {
         check.of("Terms", "1 END (place: how many bytes there are)");
         byte[] bytes = Made.rich().bytes();
@@ -144,6 +167,25 @@ public final class FaultsTest {
             check.fault("the first " + n, first(bytes, n), END, n);
         }
         check.right("all of them", bytes);
+    }
+
+    /** A file with a field and a method whose first TEXT has so many bytes. */
+    private static Made padded(int bytes) {
+        Made m = Made.least("A".repeat(bytes));
+        m.eight(5, 1);
+        m.pair(12, 1, 1);
+        m.face(2);
+        m.member(0, 0, 1, m.text("I"), Made.attribute(1, "x")).member(1, 0, 1, m.text("()V"));
+        return m.attribute(Made.attribute(1, "y"));
+    }
+
+    private static void endOfAFullTape() {
+        check.of("Terms", "1 END (place: how many bytes there are)");
+        int size = padded(0).bytes().length;
+        for (int n = 13; n < size; n++) {
+            check.fault("400 bytes, of a file's first " + n, first(padded(400 - n).bytes(), 400), END, 400);
+        }
+        check.right("400 bytes, all of them", padded(400 - size).bytes());
     }
 
     private static void magic() {
@@ -169,11 +211,7 @@ public final class FaultsTest {
 
     /** A file with so many places, all of one place each. */
     private static Made places(int n) {
-        Made m = Made.least("A");
-        while (m.places < n) {
-            m.four(3, m.places);
-        }
-        return m;
+        return Made.ints(0, n - 3);
     }
 
     private static void countOfPlaces() {
@@ -412,6 +450,35 @@ public final class FaultsTest {
             tags[i] = x.entry(0, i, 0);
         }
         return tags;
+    }
+
+    private static void placesOfEntries() {
+        check.of("Terms", "7 CLASS, 8 STRING: TWO, the place of a TEXT; 9 FIELD, 10 METHOD, 11 FACE METHOD: TWO, the place of a"
+            + " CLASS, TWO, that of a NAMED; 12 NAMED: TWO, TWO, the places of two TEXTS, a name and a sort.");
+        int[] tags = tagsOf(Made.rich());
+        for (int tag = 7; tag <= 12; tag++) {
+            int first = tag >= 9 && tag <= 11 ? 7 : 1;
+            int second = tag == 12 ? 1 : tag >= 9 ? 12 : 0;
+            for (int i = 1; i < tags.length; i++) {
+                for (int k = 1; k < (second == 0 ? 2 : tags.length); k++) {
+                    Made m = Made.rich();
+                    int at = m.behind() + 1;
+                    if (second == 0) {
+                        m.one(tag, i);
+                    } else {
+                        m.pair(tag, i, k);
+                    }
+                    String what = "tag " + tag + " tells tags " + tags[i] + ", " + tags[k];
+                    boolean right = tags[i] == first && (second == 0 || tags[k] == second);
+                    int wrong = tags[i] != first ? i : k;
+                    if (right) {
+                        due(what, m.read(new ClassPools()), 0);
+                    } else {
+                        check.fault(what, m.bytes(), tags[wrong] == 0 ? NOTHING : OTHER, tags[i] != first ? at : at + 2);
+                    }
+                }
+            }
+        }
     }
 
     private static void placesToldAtAll() {

@@ -205,6 +205,15 @@ final class Made {
         return made;
     }
 
+    /** A file of a class with so many INTS from place 3 on, each one more than the last. */
+    static Made ints(int from, int many) {
+        Made m = least("A");
+        for (int i = 0; i < many; i++) {
+            m.four(3, from + i);
+        }
+        return m;
+    }
+
     /** A file that has some of everything. */
     static Made rich() {
         Made m = new Made();

@@ -215,24 +215,16 @@ public final class MeaningsTest {
         due("before the first", x.meaning(-1, 0), NONE);
     }
 
-    private static Made ints(int from, int many) {
-        Made m = Made.least("A");
-        for (int i = 0; i < many; i++) {
-            m.four(3, from + i);
-        }
-        return m;
-    }
-
     private static void joinedRoom() {
         check.of("Promise 14", "FULL: more than 150.");
         int[] most = {149, 150, 151, 152};
         for (int many : most) {
-            ClassPools x = check.with(ints(0, 50), ints(50, 50), ints(100, many - 102));
+            ClassPools x = check.with(Made.ints(0, 50), Made.ints(50, 50), Made.ints(100, many - 102));
             due(many + " MEANINGS", x.join(), many > 150 ? FULL : many);
             due("the last of " + many, x.meaning(many - 1, 0), many > 150 ? NONE : 7);
             due("behind the last of " + many, x.meaning(many, 0), NONE);
         }
-        ClassPools same = check.with(ints(0, 50), ints(50, 50), ints(100, 48), ints(0, 50), ints(120, 20));
+        ClassPools same = check.with(Made.ints(0, 50), Made.ints(50, 50), Made.ints(100, 48), Made.ints(0, 50), Made.ints(120, 20));
         due("more than 150 ENTRIES of 150 MEANINGS", same.join(), 150);
         due("the places of one", same.meaning(same.joined(0, 1), 1), 5);
     }

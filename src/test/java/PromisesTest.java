@@ -655,23 +655,15 @@ public final class PromisesTest {
         due("join of tags", x.join(), 7);
     }
 
-    private static Made ints(int from, int many) {
-        Made m = Made.least("A");
-        for (int i = 0; i < many; i++) {
-            m.four(3, from + i);
-        }
-        return m;
-    }
-
     private static void joinFull() {
-        ClassPools x = with(ints(0, 50), ints(50, 50), ints(100, 48));
+        ClassPools x = with(Made.ints(0, 50), Made.ints(50, 50), Made.ints(100, 48));
         due("150 meanings", x.join(), 150);
         due("the last one", x.joined(2, 50), 148);
-        Made.read(x, ints(148, 1).bytes());
+        Made.read(x, Made.ints(148, 1).bytes());
         due("151 meanings", x.join(), FULL);
         due("what was reckoned stays", x.meaning(149, 0), 7);
         due("what was reckoned has it not", x.joined(3, 3), NONE);
-        due("write does not touch it", x.write(3, 1), ints(148, 1).bytes().length);
+        due("write does not touch it", x.write(3, 1), Made.ints(148, 1).bytes().length);
         due("what was reckoned is still there", x.joined(2, 50), 148);
         x.drop(0);
         due("join of fewer", x.join(), 101);

@@ -98,38 +98,48 @@ public final class RefusedTest {
         m.one(8, 1);
         m.face(2);
         m.member(0, 1, i, i, Made.attribute(1, "x")).member(1, 2, v, v, Made.attribute(1, "y"));
-        return m.attribute(Made.attribute(1, "z"));
+        return m.attribute(Made.attribute(1, "xyz"));
     }
 
     private static void feedButOne(ClassPools x, Made m) {
         Made.feed(x, Made.longer(m.bytes(), -1));
     }
 
-    /** FILES, a JOINED that has one that is gone, a FAULT, a tape, and an OUT. */
-    private static ClassPools middle() {
+    private static void readFault(ClassPools x) {
+        x.feed(0xCAFE00, 3);
+        x.read();
+    }
+
+    /** FILES, a JOINED that has one that is gone and lacks one that came later, a FAULT and an OUT; no tape. */
+    private static ClassPools begun() {
         ClassPools x = new ClassPools();
         some().read(x);
         Made.least("Bb").read(x);
         Made.least("Cc").read(x);
         x.join();
         x.drop(1);
-        x.feed(0xCAFE00, 3);
-        x.read();
+        Made.least("Ee").read(x);
+        readFault(x);
+        x.attribute(0, 2, 0, 0, 1);
+        return x;
+    }
+
+    private static ClassPools middle() {
+        ClassPools x = begun();
         feedButOne(x, Made.least("Dd"));
-        x.text(0, 6, 0);
         return x;
     }
 
     private static void somethingOfAll() {
         RefusedTest t = new RefusedTest("some of all", RefusedTest::middle);
-        check.due("a FAULT, OUT and JOINED", t.due.startsWith("place 2, OUT ()V, JOINED 1:1 1:1 1:0 1:1 1:1 5:1 7:1 7:0 ") ? 1 : 0, 1);
-        check.due("the tape and what is read from it", t.due.contains(", tape 32, read 2 -1, drop 2, ") ? 1 : 0, 1);
+        check.due("a FAULT, OUT and JOINED", t.due.startsWith("place 2, OUT xyz, JOINED 1:1 1:1 1:0 1:1 1:1 5:1 7:1 7:0 ") ? 1 : 0, 1);
+        check.due("the tape and what is read from it", t.due.contains(", tape 32, read 3 -1, drop 3, ") ? 1 : 0, 1);
         for (int wild : new int[] {LOW, -2, -1, 1000, HIGH}) {
             t.files(wild);
             t.places(wild);
             t.whats(wild);
         }
-        t.files(2);
+        t.files(3);
         t.places(8);
         t.bounds();
         t.several();
@@ -235,13 +245,15 @@ public final class RefusedTest {
         refused("number of an empty place", x -> Check.thrown(x, 0, 4), "NullPointerException");
         refused("number of no number", x -> Check.thrown(x, 0, 1), "ClassCastException");
         refused("joined of an empty place", x -> x.joined(0, 4), NONE);
+        refused("joined of one that is not among them", x -> x.joined(2, 1), NONE);
+        refused("joined of a CLASS that is not among them", x -> x.joined(2, 2), NONE);
     }
 
     /** Refused calls of all sorts, one behind the other. */
     private void several() {
-        refused("several", x -> "" + x.feed(1, 9) + x.drop(2) + x.file(0, 8) + x.entry(0, 8, 0) + Check.thrown(x, 0, 0)
+        refused("several", x -> "" + x.feed(1, 9) + x.drop(3) + x.file(0, 8) + x.entry(0, 8, 0) + Check.thrown(x, 0, 0)
             + x.text(0, 0, 0) + x.member(0, 2, 1, 0) + x.told(0, 2, 0, 0) + x.attribute(0, 2, 0, 1, 0) + x.out(3) + x.joined(0, 0)
-            + x.meaning(10, 0) + x.alike(0, 2) + x.write(0, 2), "-2-1-2-1NullPointerException-37-1-2-1-1-1-1-1-2");
+            + x.meaning(10, 0) + x.alike(0, 3) + x.write(0, 2), "-2-1-2-1NullPointerException-37-1-2-1-1-1-1-1-2");
     }
 
     private static Made room(int bytes) {
@@ -251,16 +263,16 @@ public final class RefusedTest {
     private static void fullTape() {
         check.of("Promise 2", "(400 at most): how many it has. BAD: n is not 1 .. 8; FULL.");
         RefusedTest full = new RefusedTest("400 bytes", () -> {
-            ClassPools x = new ClassPools();
+            ClassPools x = begun();
             Made.feed(x, room(400).bytes());
             return x;
         });
-        check.due("400 bytes are full", full.due.contains(", tape -3, read 0 -1, drop 0, read -21 0, ") ? 1 : 0, 1);
+        check.due("400 bytes are full", full.due.contains(", tape -3, read 3 -1, drop 3, read -21 0, ") ? 1 : 0, 1);
         for (int n = 1; n <= 8; n++) {
             int many = n;
             full.refused("feed of " + n, x -> x.feed(-1, many), FULL);
             RefusedTest less = new RefusedTest("a tape with too little room for " + n, () -> {
-                ClassPools x = new ClassPools();
+                ClassPools x = begun();
                 Made.feed(x, Made.longer(room(402 - many).bytes(), -1));
                 return x;
             });
@@ -272,12 +284,12 @@ public final class RefusedTest {
         full.refused("feed of 0", x -> x.feed(-1, 0), BAD);
     }
 
+    /** Six FILES, a JOINED that has one that is gone and lacks two that came later, and an OUT. */
     private static ClassPools six() {
-        ClassPools x = new ClassPools();
-        for (int i = 0; i < 6; i++) {
+        ClassPools x = begun();
+        for (int i = 3; i < 6; i++) {
             Made.least("F" + i).read(x);
         }
-        x.join();
         return x;
     }
 
@@ -286,7 +298,6 @@ public final class RefusedTest {
         RefusedTest right = new RefusedTest("six files, and a tape", () -> {
             ClassPools x = six();
             feedButOne(x, Made.least("Gg"));
-            x.text(3, 1, 0);
             return x;
         });
         right.refused("read", ClassPools::read, FULL);
@@ -305,14 +316,6 @@ public final class RefusedTest {
         right.refused("write 6", x -> x.write(6, 1), NONE);
     }
 
-    private static Made ints(int from, int many) {
-        Made m = Made.least("A");
-        for (int i = 0; i < many; i++) {
-            m.four(3, from + i);
-        }
-        return m;
-    }
-
     private static void manyMeanings() {
         check.of("Promise 14", "FULL: more than 150.");
         for (int earlier = 0; earlier <= 3; earlier++) {
@@ -321,11 +324,14 @@ public final class RefusedTest {
                 ClassPools x = new ClassPools();
                 int[][] files = {{0, 50}, {50, 50}, {100, 48}, {148, 1}};
                 for (int i = 0; i < files.length; i++) {
-                    ints(files[i][0], files[i][1]).read(x);
+                    Made.ints(files[i][0], files[i][1]).read(x);
                     if (i == joinedAt - 1) {
                         x.join();
                     }
                 }
+                readFault(x);
+                x.text(0, 1, 0);
+                feedButOne(x, Made.least("Dd"));
                 return x;
             });
             t.refused("join", ClassPools::join, FULL);
