@@ -34,7 +34,7 @@ public final class ClassPools {
     private int faultPlace = NONE;
     private Ranking reckoned = new Ranking();
     private Ranking trial = new Ranking();
-    private final Writer writer = new Writer(shown);
+    private final Writer writer = new Writer();
 
     public ClassPools() {
         for (int i = 0; i < files.length; i++) {
@@ -290,7 +290,7 @@ public final class ClassPools {
         trial.clear();
         trial.add(f.pool);
         int places = writer.movePlaces(f, trial);
-        return writer.push(f, trial, places);
+        return writer.push(f, trial, places, shown);
     }
 
     public int back() {
@@ -1019,15 +1019,10 @@ public final class ClassPools {
 
     /** Writes a FILE IN ORDER into a row, given the ranking of its own POOL alone. */
     private static final class Writer {
-        private final Row row;
         // by ranks: the places that MEANINGS get
         private final int[] heads = new int[POOL_ROOM];
         // by places as they were: the places that ENTRIES get
         private final int[] moved = new int[POOL_ROOM];
-
-        Writer(Row row) {
-            this.row = row;
-        }
 
         /** How many places there are then. */
         int movePlaces(ClassFile file, Ranking ranking) {
@@ -1043,38 +1038,38 @@ public final class ClassPools {
             return next;
         }
 
-        int push(ClassFile file, Ranking ranking, int places) {
-            row.take(file.row, 0, COUNT_AT);
-            row.pushTwo(places);
+        int push(ClassFile file, Ranking ranking, int places, Row to) {
+            to.take(file.row, 0, COUNT_AT);
+            to.pushTwo(places);
             for (int rank = 0; rank < ranking.size(); rank++) {
-                pushEntry(file.pool, ranking.placeOf(rank));
+                pushEntry(file.pool, ranking.placeOf(rank), to);
             }
-            pushRest(file);
-            return row.size();
+            pushRest(file, to);
+            return to.size();
         }
 
         private int movedTo(int i) {
             return i >= 0 && i < moved.length ? moved[i] : 0;
         }
 
-        private void pushEntry(Pool pool, int i) {
-            int at = row.size();
-            row.append(pool.row, pool.start(i), pool.bytesOf(i));
+        private void pushEntry(Pool pool, int i, Row to) {
+            int at = to.size();
+            to.append(pool.row, pool.start(i), pool.bytesOf(i));
             int tag = pool.tag(i);
             if (tag >= CLASS) {
-                row.putTwo(at + 1, movedTo(pool.first(i)));
+                to.putTwo(at + 1, movedTo(pool.first(i)));
             }
             if (tag >= FIELD) {
-                row.putTwo(at + 3, movedTo(pool.second(i)));
+                to.putTwo(at + 3, movedTo(pool.second(i)));
             }
         }
 
-        private void pushRest(ClassFile file) {
-            int shift = row.size() - file.behind;
-            row.append(file.row, file.behind, file.row.size() - file.behind);
+        private void pushRest(ClassFile file, Row to) {
+            int shift = to.size() - file.behind;
+            to.append(file.row, file.behind, file.row.size() - file.behind);
             for (int t = file.firstBehind(); t < file.tellCount(); t++) {
                 int at = file.tellAt(t);
-                row.putTwo(at + shift, movedTo(file.row.two(at)));
+                to.putTwo(at + shift, movedTo(file.row.two(at)));
             }
         }
     }

@@ -314,7 +314,7 @@ public final class EdgesTest {
             due("FILE " + file, x.file(file, 0), NONE);
             due("NONE ahead of BAD, FILE " + file, x.file(file, 8), NONE);
         }
-        check.of("Promise 6", "what = 0 how many bytes");
+        check.of("Promise 6", "Of a FILE: what = 0 how many bytes");
         due("the most bytes", with(Made.least("A".repeat(370))).file(0, 0), 400);
         due("few bytes", with(Made.least("")).file(0, 0), 30);
     }
@@ -332,7 +332,7 @@ public final class EdgesTest {
     }
 
     private static void entry() {
-        check.of("Promise 7", "what = 0 its TAG (0: empty), 1 the first, 2 the second place that it tells,"
+        check.of("Promise 7", "Of place i of a POOL: what = 0 its TAG (0: empty), 1 the first, 2 the second place that it tells,"
             + " 3 how many bytes a TEXT has (0 where there is none such).");
         Made m = Made.least("");
         int named = m.pair(12, 1, 1);
@@ -453,7 +453,7 @@ public final class EdgesTest {
     }
 
     private static void member() {
-        check.of("Promise 10", "kind 0 a field, 1 a method; what = 0 its name, 1 its sort");
+        check.of("Promise 10", "OUT is a TEXT of member k: kind 0 a field, 1 a method; what = 0 its name, 1 its sort");
         Made m = Made.least("A");
         int i = m.text("I");
         int v = m.text("()V");
@@ -519,8 +519,8 @@ public final class EdgesTest {
     }
 
     private static void told() {
-        check.of("Promise 11", "what = 0 flags, 1 how many attributes, 2 SLOTS (of a field: what its TYPE takes),"
-            + " 3 how many TYPES in ( ) (of a field 0). NONE; BAD.");
+        check.of("Promise 11", "Of member k, a field (kind 0) or method (1): what = 0 flags, 1 how many attributes,"
+            + " 2 SLOTS (of a field: what its TYPE takes), 3 how many TYPES in ( ) (of a field 0). NONE; BAD.");
         Made m = Made.least("A");
         byte[] a = Made.attribute(1, "");
         m.member(0, 65535, 1, m.text("D"), a, a, a, a, a, a).member(0, 0, 1, m.text("[D"));

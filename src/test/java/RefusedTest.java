@@ -8,8 +8,6 @@ import java.util.function.Supplier;
 public final class RefusedTest {
     private static final int LOW = Integer.MIN_VALUE, HIGH = Integer.MAX_VALUE;
     private static final String NONE = "-1", BAD = "-2", FULL = "-3";
-    private static final String WORDS = "Calls answer the first that fits, as they name them; what answers so changes nothing:"
-        + " NONE there is no such thing; BAD a number is not as told; FULL there is no room.";
 
     private static final Check check = new Check();
 
@@ -24,7 +22,8 @@ public final class RefusedTest {
     }
 
     public static void main(String[] args) {
-        check.of("Terms", WORDS);
+        check.of("Terms", "Calls answer the first that fits, as they name them; what answers so changes nothing:"
+            + " NONE there is no such thing; BAD a number is not as told; FULL there is no room.");
         aNewObject();
         somethingOfAll();
         fullTape();
